@@ -967,59 +967,49 @@ public final class PinnedToFit {
     }
 
     private static class Taken extends Pin {
-        @Override
         boolean canBe(Dress on, int ring, int figure) {
             return on.get(ring, WIDTH) > figure;
         }
 
-        @Override
         void work(Dress on, int ring, int figure) {
             on.widen(ring, -figure);
             on.keepMore(ring, figure / 2);
         }
 
-        @Override
         int cost(int figure) {
             return super.cost(figure) + figure;
         }
     }
 
     private static class Let extends Pin {
-        @Override
         boolean canBe(Dress on, int ring, int figure) {
             return on.get(ring, KEPT) >= figure;
         }
 
-        @Override
         void work(Dress on, int ring, int figure) {
             on.widen(ring, figure);
             on.keepMore(ring, -figure);
         }
 
-        @Override
         int cost(int figure) {
             return super.cost(figure) + 2 * figure;
         }
     }
 
     private static final class Turned extends Taken {
-        @Override
         boolean canBe(Dress on, int ring, int figure) {
             return super.canBe(on, ring, figure) && on.has(ring + 1);
         }
 
-        @Override
         void work(Dress on, int ring, int figure) {
             super.work(on, ring, figure);
             on.widen(ring + 1, figure);
         }
 
-        @Override
         int cost(int figure) {
             return 3 * super.cost(figure);
         }
 
-        @Override
         void fail(int figure) {
             if (figure > 0) {
                 throw new IllegalArgumentException("a turned dart has failed");
@@ -1028,22 +1018,18 @@ public final class PinnedToFit {
     }
 
     private static final class SetIn extends Let {
-        @Override
         boolean canBe(Dress on, int ring, int figure) {
             return true;
         }
 
-        @Override
         void work(Dress on, int ring, int figure) {
             on.widen(ring, 2 * figure);
         }
 
-        @Override
         int cost(int figure) {
             return super.cost(figure) + 9;
         }
 
-        @Override
         void fail(int figure) {
             if (figure > 0) {
                 throw new UnsupportedOperationException("a piece set in has failed");
@@ -1052,46 +1038,38 @@ public final class PinnedToFit {
     }
 
     private static final class Undone extends Pin {
-        @Override
         boolean canBe(Dress on, int ring, int figure) {
             return on.holes > 0;
         }
 
-        @Override
         void work(Dress on, int ring, int figure) {
             on.pierce(-1);
         }
 
-        @Override
         int cost(int figure) {
             return super.cost(figure) - 1;
         }
 
-        @Override
         void fail(int figure) {
         }
     }
 
     private static final class Shown extends Let {
-        @Override
         void work(Dress on, int ring, int figure) {
             super.work(on, ring, figure);
             on.pierce(figure);
         }
 
-        @Override
         int cost(int figure) {
             return super.cost(figure) - figure;
         }
     }
 
     private static final class Last extends Taken {
-        @Override
         boolean canBe(Dress on, int ring, int figure) {
             return super.canBe(on, ring, figure) && !on.has(ring + 1);
         }
 
-        @Override
         void work(Dress on, int ring, int figure) {
             super.work(on, ring, figure);
             for (int above = 0; above < ring; above++) {
@@ -1099,7 +1077,6 @@ public final class PinnedToFit {
             }
         }
 
-        @Override
         int cost(int figure) {
             return super.cost(figure) + 4;
         }
@@ -1108,7 +1085,7 @@ public final class PinnedToFit {
     // ---- what a shelf holds
 
     private static final class Shelf {
-        static final int NOTHING = 0;
+        private static final int NOTHING = 0;
         private static final int PIN = 1;
         private static final int ROW = 2;
 

@@ -17,6 +17,9 @@ public final class FaceTest {
         "int count(int)", "int keep(int,int,int,int)", "int row(int,int,int)", "int put(int,int,int)",
         "long element(int,int)", "int copy(int,int,int,int,int)", "int minutes(int)", "int toss(int)"};
 
+    private static final String ELEMENT_THROWS =
+        Arrays.asList(IllegalArgumentException.class, IllegalStateException.class).toString();
+
     public static void main(String[] args) {
         Due due = new Due();
         Set<String> seen = new TreeSet<>();
@@ -24,6 +27,8 @@ public final class FaceTest {
         for (Method m : PinnedToFit.class.getDeclaredMethods()) {
             if (!Modifier.isPrivate(m.getModifiers())) {
                 due.is(m + " is public, no static", m.getModifiers(), Modifier.PUBLIC);
+                due.same("throws of " + m, Arrays.toString(m.getExceptionTypes()),
+                    m.getName().equals("element") ? ELEMENT_THROWS : "[]");
                 seen.add(told(m));
                 publicNames.add(m.getName());
             }

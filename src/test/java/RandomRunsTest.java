@@ -2,7 +2,7 @@ import java.util.Random;
 
 /** Runs of drawn calls, the same ones each time: the class answers what Model does, call by call. */
 public final class RandomRunsTest {
-    private static final int RUNS = 3000;
+    private static final int RUNS = 2000;
     private static final int CALLS = 512;
     private static final int[] ODD = {-2147483648, -1000, -1, 6, 7, 8, 99, 100, 101, 2147483647};
 
@@ -62,9 +62,17 @@ public final class RandomRunsTest {
     /** A shelf gets what some call wants. */
     private String prepare() {
         int d = below(8);
-        switch (below(6)) {
+        switch (below(7)) {
             case 0:
                 return readText(d);
+            case 6: {
+                int kind = below(8);
+                int figure = below(10);
+                int r = about(Math.max(1, model.count(0)));
+                String told = differs("keep", x.keep(d, 1, kind, figure), model.keep(d, 1, kind, figure));
+                told = told != null ? told : differs("may", x.may(d, r), model.may(d, r));
+                return told != null ? told : differs("pin", x.pin(d, r), model.pin(d, r));
+            }
             case 1: {
                 int[] pins = new int[3 * below(7)];
                 for (int k = 0; k < pins.length; k += 3) {
@@ -72,12 +80,20 @@ public final class RandomRunsTest {
                     pins[k + 1] = about(10);
                     pins[k + 2] = about(Math.max(1, model.count(0)));
                 }
-                return putRow(d, 0, pins);
+                String told = putRow(d, 0, pins);
+                return told != null ? told : callOnPins(d);
             }
-            case 2:
-                return putRow(d, 0, lengths(1 + below(7)));
-            case 3:
-                return putRow(d, 0, lengths(1 + below(21)));
+            case 2: {
+                String told = putRow(d, 0, lengths(1 + below(7)));
+                return told != null ? told : differs("old", x.old(d), model.old(d));
+            }
+            case 3: {
+                int e = (d + 1) % 8;
+                String told = putRow(d, 0, lengths(1 + below(7)));
+                told = told != null ? told : putRow(e, 0, lengths(1 + below(21)));
+                int what = below(3);
+                return told != null ? told : differs("sizes", x.sizes(d, e, what), model.sizes(d, e, what));
+            }
             case 4: {
                 int[] row = new int[Math.max(0, model.count(0) + below(8) / 6 - below(8) / 6)];
                 int move = below(4);
@@ -100,6 +116,13 @@ public final class RandomRunsTest {
                 return told != null ? told : differs("measures", x.measures(d, what), model.measures(d, what));
             }
         }
+    }
+
+    private String callOnPins(int d) {
+        int what = below(2);
+        String told = differs("least", x.least(d, what), model.least(d, what));
+        told = told != null ? told : differs("first", x.first(d), model.first(d));
+        return told != null ? told : differs("orders", x.orders(d, what), model.orders(d, what));
     }
 
     private int[] lengths(int n) {

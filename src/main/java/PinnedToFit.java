@@ -45,20 +45,14 @@ public final class PinnedToFit {
     private final Dress now = new Dress();
     private final Dress pictured = new Dress();
     private final Dress mind = new Dress();
-    private final Dress[] steps = new Dress[MOST_PINS_IN_ORDERS + 1];
     private final Shelf[] shelves = new Shelf[SHELVES];
     private final Shelf noShelf = new Shelf();
     private final Pin[] kinds = new Pin[KINDS];
     private final Pin plainPin = new Pin();
     private final Text text = new Text();
     private boolean imageTaken;
-    private int ordersFound;
-    private int leastOfOrders;
 
     public PinnedToFit() {
-        for (int k = 0; k < steps.length; k++) {
-            steps[k] = new Dress();
-        }
         for (int d = 0; d < shelves.length; d++) {
             shelves[d] = new Shelf();
         }
@@ -234,14 +228,24 @@ public final class PinnedToFit {
             return refusal;
         }
         Shelf row = shelfAt(d);
-        if (pinsIn(row) > MOST_PINS_IN_ORDERS) {
+        int pins = pinsIn(row);
+        if (pins > MOST_PINS_IN_ORDERS) {
             return NO_ROOM;
         }
-        ordersFound = 0;
-        leastOfOrders = NONE;
-        stepAt(0).becomeLike(now);
-        walkOrders(row, 0, 0);
-        return what == 0 ? ordersFound : leastOfOrders;
+        int all = 1;
+        for (int n = 2; n <= pins; n++) {
+            all *= n;
+        }
+        int found = 0;
+        int least = NONE;
+        for (int order = 0; order < all; order++) {
+            if (sewOrderInMind(row, order)) {
+                int lacks = mind.lacking();
+                least = found == 0 ? lacks : Math.min(least, lacks);
+                found++;
+            }
+        }
+        return what == 0 ? found : least;
     }
 
     // ---- hems, darts, stripes, measures
@@ -548,11 +552,6 @@ public final class PinnedToFit {
         return pin == null ? plainPin : pin;
     }
 
-    private Dress stepAt(int depth) {
-        Dress step = depth >= 0 && depth < steps.length ? steps[depth] : null;
-        return step == null ? mind : step;
-    }
-
     private int pinRefusal(int d) {
         return isShelf(d) ? shelfAt(d).pinRefusal() : NOT_TOLD;
     }
@@ -656,26 +655,34 @@ public final class PinnedToFit {
         return cost;
     }
 
-    /** Tries each pin of the row that is not used yet as the next one, behind the dress of this depth. */
-    private void walkOrders(Shelf row, int used, int depth) {
-        Dress here = stepAt(depth);
-        int pins = pinsIn(row);
-        if (depth >= pins || depth >= MOST_PINS_IN_ORDERS) {
-            int lacks = here.lacking();
-            leastOfOrders = ordersFound == 0 ? lacks : Math.min(leastOfOrders, lacks);
-            ordersFound++;
-            return;
-        }
-        Dress next = stepAt(depth + 1);
-        for (int n = 0; n < pins; n++) {
-            if ((used >> n & 1) != 0) {
-                continue;
-            }
-            next.becomeLike(here);
-            if (sewPinOfRow(next, row, n)) {
-                walkOrders(row, used | 1 << n, depth + 1);
+    /** The order's number, divided by how many pins are left, tells by its rest which of them is the next. */
+    private boolean sewOrderInMind(Shelf row, int order) {
+        int rest = order;
+        int used = 0;
+        mind.becomeLike(now);
+        for (int left = pinsIn(row); left > 0; left--) {
+            int n = unusedPlace(used, rest % left);
+            rest /= left;
+            used |= 1 << n;
+            if (!sewPinOfRow(mind, row, n)) {
+                return false;
             }
         }
+        return true;
+    }
+
+    /** The place of the unused pin that has so many unused ones ahead of it. */
+    private static int unusedPlace(int used, int ahead) {
+        int passed = 0;
+        for (int n = 0; n < MOST_PINS; n++) {
+            if ((used >> n & 1) == 0) {
+                if (passed == ahead) {
+                    return n;
+                }
+                passed++;
+            }
+        }
+        return 0;
     }
 
     // ---- fits, measures, sizes, widths, draws

@@ -1,19 +1,59 @@
-/** Counts the answers that are not due, and tells each. */
+/** Counts the answers that are not due, and tells each, with the promise and the sentence that it breaks. */
 final class Due {
+    private static final int PROMISES = 32;
+
+    private final int[] answersOf = new int[PROMISES + 1];
+    private int promise;
+    private String sentence = "";
+    private int askedOfSentence = 1;
+    private int sentences;
     private int asked;
     private int wrong;
 
-    void is(String call, long got, long want) {
-        asked++;
-        if (got != want) {
+    /** What is asked from here on tests this sentence of a promise (or of the terms that the promise needs). */
+    void of(int nextPromise, String nextSentence) {
+        lookForAnswers();
+        promise = nextPromise;
+        sentence = nextSentence;
+        askedOfSentence = 0;
+        sentences++;
+    }
+
+    private void lookForAnswers() {
+        if (askedOfSentence == 0) {
             wrong++;
-            System.out.println(call + " answered " + got + ", due is " + want);
+            System.out.println("promise " + promise + " (" + sentence + "): nothing was asked");
         }
     }
 
-    /** Ends the test: exit code 1, if an answer was not due. */
-    void end() {
-        System.out.println(asked + " answers, " + wrong + " not as due");
+    private void look(boolean asDue, String told) {
+        asked++;
+        askedOfSentence++;
+        answersOf[promise]++;
+        if (!asDue) {
+            wrong++;
+            System.out.println("promise " + promise + " (" + sentence + "): " + told);
+        }
+    }
+
+    void is(String call, long got, long want) {
+        look(got == want, call + " answered " + got + ", due is " + want);
+    }
+
+    void same(String call, String got, String want) {
+        look(got.equals(want), call + " left " + got + ", due is " + want);
+    }
+
+    /** Ends the test: exit code 1, if an answer was not due, or if one of these promises was not asked for. */
+    void end(int firstPromise, int lastPromise) {
+        lookForAnswers();
+        for (int p = firstPromise; p <= lastPromise; p++) {
+            if (answersOf[p] == 0) {
+                wrong++;
+                System.out.println("promise " + p + ": nothing was asked");
+            }
+        }
+        System.out.println(asked + " answers to " + sentences + " sentences, " + wrong + " not as due");
         if (wrong != 0 || asked == 0) {
             System.exit(1);
         }
@@ -27,13 +67,18 @@ final class Due {
         }
     }
 
-    /** Reads a text from shelf 7. */
-    static int read(PinnedToFit x, String text) {
+    /** A text as a row of bytes on a shelf. */
+    static void text(PinnedToFit x, int d, String text) {
         int[] bytes = new int[text.length()];
         for (int i = 0; i < bytes.length; i++) {
             bytes[i] = text.charAt(i);
         }
-        row(x, 7, 0, bytes);
+        row(x, d, 0, bytes);
+    }
+
+    /** Reads a text from shelf 7. */
+    static int read(PinnedToFit x, String text) {
+        text(x, 7, text);
         return x.dress(7);
     }
 
@@ -44,6 +89,18 @@ final class Due {
             throw new IllegalStateException("not a dress: " + text);
         }
         return x;
+    }
+
+    /** Puts a pin by way of shelf 6. */
+    static int pinned(PinnedToFit x, int kind, int figure, int ring) {
+        x.keep(6, 1, kind, figure);
+        return x.pin(6, ring);
+    }
+
+    /** Asks for a pin by way of shelf 6. */
+    static int allowed(PinnedToFit x, int kind, int figure, int ring) {
+        x.keep(6, 1, kind, figure);
+        return x.may(6, ring);
     }
 
     /** All of a dress but its shelves as one text. */
@@ -61,11 +118,27 @@ final class Due {
         return seen.toString();
     }
 
-    void same(String call, String got, String want) {
-        asked++;
-        if (!got.equals(want)) {
-            wrong++;
-            System.out.println(call + " left " + got + ", due is " + want);
+    /** What a shelf holds; old and measures tell the sort of a row. */
+    static String held(PinnedToFit x, int d) {
+        StringBuilder held = new StringBuilder();
+        held.append(x.minutes(d)).append(' ').append(x.toss(d)).append(' ');
+        held.append(x.old(d)).append(' ').append(x.measures(d, 0)).append(':');
+        for (int i = 0; i <= 100; i++) {
+            try {
+                held.append(' ').append(x.element(d, i));
+            } catch (IllegalStateException noPlace) {
+                break;
+            }
         }
+        return held.toString();
+    }
+
+    /** All of a dress and its shelves as one text. */
+    static String all(PinnedToFit x) {
+        StringBuilder all = new StringBuilder(seen(x));
+        for (int d = 0; d < 8; d++) {
+            all.append("| ").append(held(x, d));
+        }
+        return all.toString();
     }
 }

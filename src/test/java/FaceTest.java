@@ -22,6 +22,7 @@ public final class FaceTest {
 
     public static void main(String[] args) {
         Due due = new Due();
+        due.of(0, "The public face");
         Set<String> seen = new TreeSet<>();
         Set<String> publicNames = new TreeSet<>();
         for (Method m : PinnedToFit.class.getDeclaredMethods()) {
@@ -54,7 +55,7 @@ public final class FaceTest {
             int wrong = inside.getModifiers() & (Modifier.PUBLIC | Modifier.PROTECTED);
             due.is(inside + " is not public", wrong, 0);
         }
-        due.end();
+        due.end(0, 0);
     }
 
     private static String told(Method m) {

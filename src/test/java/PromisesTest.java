@@ -41,9 +41,10 @@ public final class PromisesTest {
         put();
         element();
         copy();
-        minutesAndToss();
+        minutes();
+        toss();
         refusedCallsChangeNothing();
-        DUE.end();
+        DUE.end(1, 32);
     }
 
     private static void due(String call, long got, long want) {
@@ -55,18 +56,9 @@ public final class PromisesTest {
         return Due.made("r50 " + width + " " + kept + give + ";");
     }
 
-    private static int pinned(PinnedToFit x, int kind, int figure, int ring) {
-        x.keep(6, 1, kind, figure);
-        return x.pin(6, ring);
-    }
-
-    private static int allowed(PinnedToFit x, int kind, int figure, int ring) {
-        x.keep(6, 1, kind, figure);
-        return x.may(6, ring);
-    }
-
     /** Promise 1. */
     private static void newObject() {
+        DUE.of(1, "the whole");
         PinnedToFit x = new PinnedToFit();
         DUE.same("a new object", Due.seen(x), "0 0 0 1 8 0 0 ");
         for (int d = 0; d < 8; d++) {
@@ -78,6 +70,7 @@ public final class PromisesTest {
 
     /** Promise 2, faults of kind 1. */
     private static void dressForm() {
+        DUE.of(2, "the whole");
         PinnedToFit x = new PinnedToFit();
         String[] texts = {
             "", "x", ";", "r", "r;", "rx", "r1", "r1;", "r12", "r123", "r01 ", "r0 ", "r1  ", "r1 2", "r1 2;",
@@ -116,6 +109,7 @@ public final class PromisesTest {
 
     /** Promise 2, what comes to what there is, and faults of kind 2. */
     private static void dressSense() {
+        DUE.of(2, "the whole");
         PinnedToFit x = new PinnedToFit();
         due("a dress", Due.read(x, "r30 32 42;t2;r1 99 90;l30;p121;"), 5);
         DUE.same("a dress", Due.seen(x), "30 32 4 2 ; 1 97 9 0 ; 2 0 3 2 30 13 129 ");
@@ -151,6 +145,7 @@ public final class PromisesTest {
 
     /** Promise 3. */
     private static void ring() {
+        DUE.of(3, "the whole");
         PinnedToFit x = Due.made("r30 42 57;r1 2 34;");
         int[] first = {30, 42, 5, 7};
         int[] second = {1, 2, 3, 4};
@@ -167,6 +162,7 @@ public final class PromisesTest {
 
     /** Promise 4. */
     private static void line() {
+        DUE.of(4, "the whole");
         PinnedToFit x = new PinnedToFit();
         due("line(0, 9)", x.line(0, 9), 1);
         due("line(0, 0)", x.line(0, 0), 9);
@@ -182,27 +178,28 @@ public final class PromisesTest {
 
     /** Promise 5. */
     private static void may() {
+        DUE.of(5, "the whole");
         PinnedToFit x = Due.made("r50 5 30;r50 4 00;");
         for (int ring = 0; ring < 2; ring++) {
-            due("PIN", allowed(x, 0, 9, ring), 1);
-            due("SET", allowed(x, 4, 9, ring), 1);
-            due("UNDONE without HOLES", allowed(x, 5, 0, ring), 0);
+            due("PIN", Due.allowed(x, 0, 9, ring), 1);
+            due("SET", Due.allowed(x, 4, 9, ring), 1);
+            due("UNDONE without HOLES", Due.allowed(x, 5, 0, ring), 0);
         }
-        due("TAKEN, WIDTH above FIGURE", allowed(x, 1, 4, 0), 1);
-        due("TAKEN, WIDTH as FIGURE", allowed(x, 1, 5, 0), 0);
-        due("LET, KEPT as FIGURE", allowed(x, 2, 3, 0), 1);
-        due("LET, KEPT below FIGURE", allowed(x, 2, 4, 0), 0);
-        due("LET of 0", allowed(x, 2, 0, 1), 1);
-        due("TURNED", allowed(x, 3, 4, 0), 1);
-        due("TURNED, WIDTH as FIGURE", allowed(x, 3, 5, 0), 0);
-        due("TURNED at the last RING", allowed(x, 3, 1, 1), 0);
-        due("SHOWN", allowed(x, 6, 3, 0), 1);
-        due("SHOWN, KEPT below FIGURE", allowed(x, 6, 4, 0), 0);
-        due("LAST", allowed(x, 7, 3, 1), 1);
-        due("LAST, WIDTH as FIGURE", allowed(x, 7, 4, 1), 0);
-        due("LAST at another RING", allowed(x, 7, 1, 0), 0);
-        pinned(x, 6, 1, 0);
-        due("UNDONE with a HOLE", allowed(x, 5, 9, 1), 1);
+        due("TAKEN, WIDTH above FIGURE", Due.allowed(x, 1, 4, 0), 1);
+        due("TAKEN, WIDTH as FIGURE", Due.allowed(x, 1, 5, 0), 0);
+        due("LET, KEPT as FIGURE", Due.allowed(x, 2, 3, 0), 1);
+        due("LET, KEPT below FIGURE", Due.allowed(x, 2, 4, 0), 0);
+        due("LET of 0", Due.allowed(x, 2, 0, 1), 1);
+        due("TURNED", Due.allowed(x, 3, 4, 0), 1);
+        due("TURNED, WIDTH as FIGURE", Due.allowed(x, 3, 5, 0), 0);
+        due("TURNED at the last RING", Due.allowed(x, 3, 1, 1), 0);
+        due("SHOWN", Due.allowed(x, 6, 3, 0), 1);
+        due("SHOWN, KEPT below FIGURE", Due.allowed(x, 6, 4, 0), 0);
+        due("LAST", Due.allowed(x, 7, 3, 1), 1);
+        due("LAST, WIDTH as FIGURE", Due.allowed(x, 7, 4, 1), 0);
+        due("LAST at another RING", Due.allowed(x, 7, 1, 0), 0);
+        Due.pinned(x, 6, 1, 0);
+        due("UNDONE with a HOLE", Due.allowed(x, 5, 9, 1), 1);
         due("may changes nothing", x.count(1), 1);
         due("no such RING", x.may(6, 2), -1);
         due("no such RING, nothing held", x.may(0, -1), -1);
@@ -216,72 +213,75 @@ public final class PromisesTest {
 
     /** Promise 6: TAKEN, LET and what holds for both. */
     private static void pinsTakenAndLet() {
+        DUE.of(6, "the whole");
         PinnedToFit x = one(55, 3, 0);
-        due("PIN", pinned(x, 0, 9, 0), 0);
+        due("PIN", Due.pinned(x, 0, 9, 0), 0);
         DUE.same("PIN", Due.seen(x), "50 55 3 0 ; 1 0 1 1 8 3 55 ");
-        due("TAKEN 5: EASE 0, 0, -2, -1", pinned(x, 1, 5, 0), 1 + 1 + 3 + 2);
+        due("TAKEN 5: EASE 0, 0, -2, -1", Due.pinned(x, 1, 5, 0), 1 + 1 + 3 + 2);
         DUE.same("TAKEN", Due.seen(x), "50 50 5 0 ; 1 0 7 1 8 5 50 ");
-        pinned(x, 1, 9, 0);
+        Due.pinned(x, 1, 9, 0);
         DUE.same("KEPT 9 at most", Due.seen(x), "50 41 9 0 ; 1 0 17 1 8 9 41 ");
-        pinned(x, 1, 9, 0);
+        Due.pinned(x, 1, 9, 0);
         DUE.same("KEPT 9 at most, once more", Due.seen(x), "50 32 9 0 ; 1 0 27 1 8 9 32 ");
-        pinned(x, 2, 7, 0);
+        Due.pinned(x, 2, 7, 0);
         DUE.same("LET", Due.seen(x), "50 39 2 0 ; 1 0 42 1 8 2 39 ");
         PinnedToFit wide = one(97, 9, 0);
-        pinned(wide, 2, 5, 0);
+        Due.pinned(wide, 2, 5, 0);
         DUE.same("WIDTH 99 at most", Due.seen(wide), "50 99 4 0 ; 1 0 11 1 8 4 99 ");
-        pinned(wide, 1, 1, 0);
+        Due.pinned(wide, 1, 1, 0);
         DUE.same("half of 1 is 0", Due.seen(wide), "50 98 4 0 ; 1 0 13 1 8 4 98 ");
         due("what is taken from a SHELF stays", wide.minutes(6), 2);
     }
 
     /** Promise 6: the other KINDS. */
     private static void pinsOfOtherKinds() {
+        DUE.of(6, "the whole");
         PinnedToFit x = Due.made("r50 60 00;r50 92 10;r50 2 90;");
-        pinned(x, 3, 9, 0);
+        Due.pinned(x, 3, 9, 0);
         DUE.same("TURNED", Due.seen(x), "50 51 4 0 ; 50 99 1 0 ; 50 2 9 0 ; 3 0 30 1 8 14 152 ");
-        pinned(x, 3, 3, 1);
+        Due.pinned(x, 3, 3, 1);
         DUE.same("TURNED at the RING ahead of the last", Due.seen(x),
             "50 51 4 0 ; 50 96 2 0 ; 50 5 9 0 ; 3 0 42 1 8 15 152 ");
-        pinned(x, 4, 1, 1);
+        Due.pinned(x, 4, 1, 1);
         DUE.same("SET", Due.seen(x), "50 51 4 0 ; 50 98 2 0 ; 50 5 9 0 ; 3 0 54 1 8 15 154 ");
-        pinned(x, 4, 9, 1);
+        Due.pinned(x, 4, 9, 1);
         DUE.same("SET, WIDTH 99 at most", Due.seen(x), "50 51 4 0 ; 50 99 2 0 ; 50 5 9 0 ; 3 0 82 1 8 15 155 ");
-        pinned(x, 6, 4, 0);
+        Due.pinned(x, 6, 4, 0);
         DUE.same("SHOWN", Due.seen(x), "50 55 0 0 ; 50 99 2 0 ; 50 5 9 0 ; 3 4 87 1 8 11 159 ");
-        pinned(x, 5, 9, 2);
+        Due.pinned(x, 5, 9, 2);
         DUE.same("UNDONE", Due.seen(x), "50 55 0 0 ; 50 99 2 0 ; 50 5 9 0 ; 3 3 87 1 8 11 159 ");
-        pinned(x, 7, 4, 2);
+        Due.pinned(x, 7, 4, 2);
         DUE.same("LAST", Due.seen(x), "50 54 0 0 ; 50 98 2 0 ; 50 1 9 0 ; 3 3 96 1 8 11 153 ");
         PinnedToFit narrow = Due.made("r50 1 00;r50 2 00;r50 9 00;");
-        pinned(narrow, 7, 0, 2);
-        pinned(narrow, 7, 0, 2);
+        Due.pinned(narrow, 7, 0, 2);
+        Due.pinned(narrow, 7, 0, 2);
         DUE.same("LAST, 1 at least", Due.seen(narrow), "50 1 0 0 ; 50 1 0 0 ; 50 9 0 0 ; 3 0 10 1 8 0 11 ");
         PinnedToFit undone = one(50, 9, 0);
-        pinned(undone, 6, 1, 0);
-        pinned(undone, 5, 0, 0);
+        Due.pinned(undone, 6, 1, 0);
+        Due.pinned(undone, 5, 0, 0);
         due("the last HOLE", undone.count(1), 0);
-        due("no HOLE any more", pinned(undone, 5, 0, 0), -3);
+        due("no HOLE any more", Due.pinned(undone, 5, 0, 0), -3);
         PinnedToFit holed = one(50, 9, 0);
         for (int k = 0; k < 13; k++) {
-            pinned(holed, 6, 8, 0);
-            pinned(holed, 4, 5, 0);
-            pinned(holed, 1, 9, 0);
-            pinned(holed, 1, 9, 0);
+            Due.pinned(holed, 6, 8, 0);
+            Due.pinned(holed, 4, 5, 0);
+            Due.pinned(holed, 1, 9, 0);
+            Due.pinned(holed, 1, 9, 0);
         }
         due("HOLES 99 at most", holed.count(1), 99);
     }
 
     /** Promise 6: refusals, and MINUTES 9999 at most. */
     private static void pinRefusals() {
+        DUE.of(6, "the whole");
         PinnedToFit x = one(5, 0, 0);
         String before = Due.seen(x);
-        due("TAKEN, WIDTH as FIGURE", pinned(x, 1, 5, 0), -3);
-        due("LET", pinned(x, 2, 1, 0), -3);
-        due("TURNED", pinned(x, 3, 1, 0), -3);
-        due("UNDONE", pinned(x, 5, 1, 0), -3);
-        due("SHOWN", pinned(x, 6, 1, 0), -3);
-        due("LAST", pinned(x, 7, 5, 0), -3);
+        due("TAKEN, WIDTH as FIGURE", Due.pinned(x, 1, 5, 0), -3);
+        due("LET", Due.pinned(x, 2, 1, 0), -3);
+        due("TURNED", Due.pinned(x, 3, 1, 0), -3);
+        due("UNDONE", Due.pinned(x, 5, 1, 0), -3);
+        due("SHOWN", Due.pinned(x, 6, 1, 0), -3);
+        due("LAST", Due.pinned(x, 7, 5, 0), -3);
         due("no such RING", x.pin(6, 1), -1);
         due("no such RING", x.pin(6, -1), -1);
         for (int d : NO_SHELF) {
@@ -302,6 +302,7 @@ public final class PromisesTest {
 
     /** Promise 7. */
     private static void ease() {
+        DUE.of(7, "the whole");
         PinnedToFit x = Due.made("r50 55 09;r50 49 09;r1 99 00;r99 1 09;r50 50 01;r50 50 01;");
         int[][] want = {
             {5, -4, -1, 4}, {-1, -10, -5, -1}, {98, 98, 98, 97}, {-98, -107, -102, -98}, {0, -1, 0, -1}, {0, -1, 0, 0}};
@@ -319,6 +320,7 @@ public final class PromisesTest {
 
     /** Promise 8. */
     private static void fit() {
+        DUE.of(8, "the whole");
         PinnedToFit x = Due.made("r50 51 00;r50 58 08;r50 59 00;r50 51 01;r50 53 00;");
         due("standing", x.fit(0), 0b11011);
         due("sitting", x.fit(1), 0b10101);
@@ -337,6 +339,7 @@ public final class PromisesTest {
 
     /** Promise 9. */
     private static void lacks() {
+        DUE.of(9, "the whole");
         due("fits", one(54, 0, 2).lacks(), 0);
         due("too loose by 3, standing", one(61, 0, 0).lacks(), 3);
         due("too tight by 1, 5, 5, 2", one(50, 0, 4).lacks(), 1 + 5 + 5 + 2);
@@ -350,6 +353,7 @@ public final class PromisesTest {
 
     /** Promise 10. */
     private static void bestPin() {
+        DUE.of(10, "the whole");
         due("nothing lacks", one(54, 9, 0).bestPin(1, 0), -4);
         due("nothing lacks", one(54, 9, 0).bestPin(1, 1), 0);
         PinnedToFit x = one(61, 0, 0);
@@ -382,6 +386,7 @@ public final class PromisesTest {
 
     /** Promise 11. */
     private static void least() {
+        DUE.of(11, "the whole");
         PinnedToFit x = one(61, 0, 0);
         String before = Due.seen(x);
         Due.row(x, 0, BYTES, 1, 2, 0, 1, 1, 0, 1, 3, 0);
@@ -473,6 +478,7 @@ public final class PromisesTest {
 
     /** Promise 12. */
     private static void first() {
+        DUE.of(12, "the whole");
         PinnedToFit x = Due.made("r50 9 30;r50 54 00;");
         String before = Due.seen(x);
         Due.row(x, 0, BYTES, 2, 2, 0, 2, 1, 0, 2, 1, 0);
@@ -491,6 +497,7 @@ public final class PromisesTest {
 
     /** Promise 13. */
     private static void orders() {
+        DUE.of(13, "the whole");
         PinnedToFit x = Due.made("r50 54 00;r50 52 20;");
         String before = Due.seen(x);
         Due.row(x, 0, BYTES, 6, 1, 1, 5, 0, 0, 0, 0, 0);
@@ -518,6 +525,7 @@ public final class PromisesTest {
 
     /** Promise 14. */
     private static void hem() {
+        DUE.of(14, "the whole");
         int[][] calls = {
             {50, 5, 2, 54}, {50, 5, 0, 50}, {99, 99, 20, 99}, {1, 99, 20, 1}, {10, 10, 3, 13}, {60, 99, 1, 99},
             {2, 50, 3, 6}, {9, 0, 20, 9}, {2, 99, 1, 3},
@@ -529,6 +537,7 @@ public final class PromisesTest {
 
     /** Promise 15. */
     private static void darts() {
+        DUE.of(15, "the whole");
         int[][] calls = {
             {2, 3, 4, 6, 1}, {2, 3, 4, 5, 0}, {0, 1, 0, 99, 1}, {0, 1, 1, 1, 0}, {99, 99, 1, 1, 1}, {3, 2, 2, 3, 0},
             {-1, 1, 1, 1, -1}, {100, 1, 1, 1, -1}, {1, 0, 1, 1, -1}, {1, 100, 1, 1, -1}, {1, 1, -1, 1, -1},
@@ -541,6 +550,7 @@ public final class PromisesTest {
 
     /** Promise 16. */
     private static void stripes() {
+        DUE.of(16, "the whole");
         int[][] calls = {
             {4, 1, 6, 3, 9}, {4, 1, 6, 2, -4}, {1, 0, 1, 0, 0}, {60, 59, 60, 59, 59}, {60, 59, 59, 58, 3539},
             {5, 4, 1, 0, 4}, {1, 0, 7, 6, 6}, {6, 3, 4, 1, 9}, {60, 0, 59, 58, 60 * 58},
@@ -554,6 +564,7 @@ public final class PromisesTest {
 
     /** Promise 17. */
     private static void measures() {
+        DUE.of(17, "the whole");
         PinnedToFit x = Due.made("r30 1 00;r20 1 00;r50 1 00;");
         Due.row(x, 0, SHORTS, 0, 1, 10, 2, 0, 20, 1, 2, -30);
         due("all are so", x.measures(0, 0), -4);
@@ -593,6 +604,7 @@ public final class PromisesTest {
 
     /** Promise 18. */
     private static void sizes() {
+        DUE.of(18, "the whole");
         PinnedToFit x = new PinnedToFit();
         Due.row(x, 0, BYTES, 40, 30, 50);
         Due.row(x, 1, BYTES, 29, 30, 38, 49, 50, 9);
@@ -662,6 +674,7 @@ public final class PromisesTest {
 
     /** Promise 19. */
     private static void old() {
+        DUE.of(19, "the whole");
         PinnedToFit x = Due.made("r1 40 50;r1 30 00;r1 30 90;");
         int[][] told = {
             {45, 1}, {46, 0}, {45, 39, 30, 3}, {30, 39, 45, 3}, {45, 45, 1}, {39, 39, 39, 2}, {1, 1, 1, 1, 3},
@@ -690,6 +703,7 @@ public final class PromisesTest {
 
     /** Promise 20. */
     private static void shape() {
+        DUE.of(20, "the whole");
         PinnedToFit x = Due.made("r50 54 99;r99 1 00;");
         due("shape(0, 0)", x.shape(0, 0), 3);
         due("shape(0, 9)", x.shape(0, 9), 12);
@@ -704,6 +718,7 @@ public final class PromisesTest {
 
     /** Promise 21; the numbers are drawn by hand. */
     private static void seeded() {
+        DUE.of(21, "the whole");
         PinnedToFit x = Due.made("t2;l9;r30 32 42;r24 24 90;r36 50 05;r20 19 00;");
         String before = Due.seen(x);
         due("LACKS", x.seeded(10, 5, 0), 55);
@@ -724,6 +739,7 @@ public final class PromisesTest {
 
     /** Promise 22. */
     private static void judge() {
+        DUE.of(22, "the whole");
         PinnedToFit x = Due.made("r50 54 04;r50 40 00;");
         int[][] told = {{4, -10, -4}, {4, -9, 1}, {3, -10, 0}, {4, 1}, {0}, {4, -10, 0, 2}, {-128, -10, -4},
             {4, -128, -4}, {-128, -128, -128, 2}, {-128, 1}, {-127, -10, 0}};
@@ -761,6 +777,7 @@ public final class PromisesTest {
 
     /** Promises 23 and 24. */
     private static void imageAndRestore() {
+        DUE.of(24, "the whole");
         PinnedToFit x = Due.made("t2;l9;r50 54 94;p610;");
         String then = Due.seen(x);
         due("no image", x.restore(), -3);
@@ -781,6 +798,7 @@ public final class PromisesTest {
         x.line(0, 9);
         due("another image restored", x.restore(), 2);
         DUE.same("another image restored", Due.seen(x), two);
+        DUE.of(23, "the whole");
         PinnedToFit empty = new PinnedToFit();
         due("image of nothing", empty.image(), 0);
         Due.read(empty, "r1 1 11;");
@@ -790,6 +808,7 @@ public final class PromisesTest {
 
     /** Promise 25. */
     private static void count() {
+        DUE.of(25, "the whole");
         PinnedToFit x = Due.made("r50 54 94;r50 60 11;t3;l7;p610;p120;");
         int[] want = {2, 1, 5, 3, 7, 10, 113};
         for (int what = 0; what < 7; what++) {
@@ -801,6 +820,7 @@ public final class PromisesTest {
 
     /** Promise 26. */
     private static void keep() {
+        DUE.of(26, "the whole");
         PinnedToFit x = new PinnedToFit();
         for (int d : NO_SHELF) {
             due("keep(" + d + ", 0, 0, 0)", x.keep(d, 0, 0, 0), -1);
@@ -822,6 +842,7 @@ public final class PromisesTest {
 
     /** Promise 27. */
     private static void row() {
+        DUE.of(27, "the whole");
         PinnedToFit x = new PinnedToFit();
         due("row(0, 0, 100)", x.row(0, BYTES, 100), 0);
         due("its last element", x.element(0, 99), 0);
@@ -844,6 +865,7 @@ public final class PromisesTest {
 
     /** Promise 28. */
     private static void put() {
+        DUE.of(28, "the whole");
         PinnedToFit x = new PinnedToFit();
         int[] v = {127, 128, 255, 256, 32767, 32768, 65535, 65536, -129, -32769, 2147483647, -2147483648};
         for (int sort = 0; sort < 3; sort++) {
@@ -879,6 +901,7 @@ public final class PromisesTest {
 
     /** Promise 29. */
     private static void element() {
+        DUE.of(29, "the whole");
         PinnedToFit x = new PinnedToFit();
         Due.row(x, 0, INTS, 5, -6);
         due("element(0, 0)", x.element(0, 0), 5);
@@ -905,6 +928,7 @@ public final class PromisesTest {
 
     /** Promise 30. */
     private static void copy() {
+        DUE.of(30, "the whole");
         PinnedToFit x = new PinnedToFit();
         Due.row(x, 0, BYTES, 1, 2, 3, 4, 5);
         x.row(1, BYTES, 4);
@@ -937,31 +961,46 @@ public final class PromisesTest {
         dueRow(x, "refused copies", 1, 0, 3, 4, 5);
     }
 
-    /** Promises 31 and 32. */
-    private static void minutesAndToss() {
+    /** Promise 31. */
+    private static void minutes() {
+        DUE.of(31, "the whole");
         PinnedToFit x = new PinnedToFit();
-        for (int figure = 0; figure < 10; figure++) {
-            int f = figure;
+        for (int f = 0; f < 10; f++) {
             int[] minutes = {1, 1 + f, 1 + 2 * f, 3 + 3 * f, 10 + 2 * f, 0, 1 + f, 5 + f};
-            int[] failures = {f, f, f, 100 + f, 210 + 2 * f, -15, f, f};
             for (int kind = 0; kind < 8; kind++) {
                 x.keep(0, 1, kind, f);
                 due("minutes of " + kind + ", " + f, x.minutes(0), minutes[kind]);
-                due("toss of " + kind + ", " + f, x.toss(0), f == 0 ? -15 : failures[kind]);
             }
         }
         for (int d : NO_SHELF) {
             due("minutes(" + d + ")", x.minutes(d), -1);
-            due("toss(" + d + ")", x.toss(d), -1);
         }
         due("minutes of nothing", x.minutes(1), -11);
-        due("toss of nothing", x.toss(1), -11);
         x.row(1, BYTES, 0);
         due("minutes of a ROW", x.minutes(1), -12);
+    }
+
+    /** Promise 32. */
+    private static void toss() {
+        DUE.of(32, "the whole");
+        PinnedToFit x = new PinnedToFit();
+        for (int f = 0; f < 10; f++) {
+            int[] failures = {f, f, f, 100 + f, 210 + 2 * f, -15, f, f};
+            for (int kind = 0; kind < 8; kind++) {
+                x.keep(0, 1, kind, f);
+                due("toss of " + kind + ", " + f, x.toss(0), f == 0 ? -15 : failures[kind]);
+            }
+        }
+        for (int d : NO_SHELF) {
+            due("toss(" + d + ")", x.toss(d), -1);
+        }
+        due("toss of nothing", x.toss(1), -11);
+        x.row(1, BYTES, 0);
         due("toss of a ROW", x.toss(1), -12);
     }
 
     private static void refusedCallsChangeNothing() {
+        DUE.of(30, "a refused call changes nothing");
         PinnedToFit x = Due.made("t2;l9;r50 54 94;r50 54 00;p610;");
         Due.row(x, 0, BYTES, 1, 2, 3);
         x.keep(1, 1, 7, 1);

@@ -112,6 +112,17 @@ public final class EdgesOfAdviceTest {
         DUE.same("bestPin", Due.all(x), before);
     }
 
+    /** A dress whose RING 0 is 99 wide, behind so many PINS that MINUTES are full. */
+    private static PinnedToFit with9999Minutes(String text) {
+        PinnedToFit x = Due.made(text);
+        x.keep(0, 1, 4, 9);
+        for (int k = 0; k < 358; k++) {
+            x.pin(0, 0);
+        }
+        due("MINUTES", x.count(2), 9999);
+        return x;
+    }
+
     private static void bestPinOfSeveral() {
         DUE.of(10, "of all PINS that MAY be at a RING");
         due("KEPT 2 lets out 2 alone", one(50, 2).bestPin(0, 0), 62);
@@ -125,18 +136,9 @@ public final class EdgesOfAdviceTest {
         due("TAKEN 3 to 5 fit", one(61, 0).bestPin(1, 0), 13);
         due("SHOWN 3 has less MINUTES than LET 3", one(50, 9).bestPin(1, 0), 63);
         DUE.of(10, "MINUTES of the PIN, though no more go to MINUTES than 9999");
-        PinnedToFit late = one(50, 9);
-        late.keep(0, 1, 4, 9);
-        for (int k = 0; k < 358; k++) {
-            late.pin(0, 0);
-        }
-        late.line(1, 30);
-        late.line(0, 0);
-        due("MINUTES 9999", late.count(2), 9999);
-        due("EASE 49 less 9: the dearest TAKEN is best", late.bestPin(0, 0), 19);
-        Due.pinned(late, 1, 9, 0);
-        Due.pinned(late, 1, 9, 0);
-        due("EASE 31: TAKEN 1 has the least MINUTES", late.bestPin(0, 0), 11);
+        PinnedToFit late = with9999Minutes("l30;r90 99 00;r50 50 90;");
+        due("SHOWN 1 has less MINUTES than LET 1", late.bestPin(0, 0), 161);
+        due("SHOWN 1: LACKS then", late.bestPin(0, 1), 0);
         DUE.of(10, "then the first by RINGS, KINDS, FIGURES");
         due("RING 1 ahead of RING 2", Due.made("r9 14 00;r50 61 00;r50 61 00;r9 14 00;").bestPin(0, 0), 113);
         due("KIND 1, though KIND 3 does it too", Due.made("r9 18 00;r9 11 00;").bestPin(0, 0), 11);
@@ -205,16 +207,10 @@ public final class EdgesOfAdviceTest {
         Due.row(x, 0, BYTES, 1, 1, 0, 1, 2, 0, 1, 3, 0);
         due("3 at once has less than 1 and 2", x.least(0, 0), 4);
         DUE.of(11, "MINUTES of the PINS, though no more go to MINUTES than 9999");
-        PinnedToFit late = one(61, 0);
-        late.keep(0, 1, 4, 9);
-        for (int k = 0; k < 360; k++) {
-            late.pin(0, 0);
-        }
-        late.line(1, 30);
-        Due.row(late, 0, BYTES, 1, 9, 0, 1, 9, 0, 1, 9, 0, 0, 9, 0);
-        due("without the PIN that does nothing", late.least(0, 0), 7);
-        Due.row(late, 0, BYTES, 0, 9, 0, 1, 9, 0, 1, 9, 0, 1, 9, 0);
-        due("without the PIN that does nothing, ahead", late.least(0, 0), 14);
+        PinnedToFit late = with9999Minutes("l30;r66 99 00;");
+        Due.row(late, 0, BYTES, 1, 5, 0, 1, 3, 0, 0, 9, 0);
+        due("3 above LOOSE: TAKEN 3", late.least(0, 0), 2);
+        due("TAKEN 3: LACKS then", late.least(0, 1), 0);
         DUE.of(11, "then the least as bits");
         Due.row(x, 0, BYTES, 1, 3, 0, 1, 3, 0);
         due("two that are alike", x.least(0, 0), 1);
@@ -506,8 +502,12 @@ public final class EdgesOfAdviceTest {
         DUE.of(17, "-1: what 0 or 1");
         for (int what : new int[] {-1, 2, LEAST, MOST}) {
             due("measures(0, " + what + ")", x.measures(0, what), -1);
+            due("measures(7, " + what + ") of a ROW of bytes", x.measures(7, what), -1);
         }
         refusesOthers(17, "measures", SHORTS, d -> x.measures(d, 0), x);
+        DUE.of(17, "of several refusals the first: -12, -13");
+        Due.row(x, 5, BYTES, 0, 0);
+        due("two bytes", x.measures(5, 0), -12);
         DUE.of(17, "-13: by threes");
         for (int size : new int[] {1, 2, 4, 5, 98, 100}) {
             x.row(0, SHORTS, size);
@@ -567,7 +567,12 @@ public final class EdgesOfAdviceTest {
         Due.row(x, 3, BYTES, 1, 2, 99);
         due("how many have none", x.sizes(2, 3, 0), 0);
         due("SPARE", x.sizes(2, 3, 1), 97);
+        Due.row(x, 2, BYTES, 2);
+        Due.row(x, 3, BYTES, 1);
+        due("2 for 1: how many have none", x.sizes(2, 3, 0), 0);
+        due("2 for 1: SPARE", x.sizes(2, 3, 1), 1);
         DUE.of(18, "the same SHELF for both");
+        Due.row(x, 2, BYTES, 1, 99);
         due("sizes(2, 2, 1)", x.sizes(2, 2, 1), 0);
         x.line(0, 1);
         due("sizes(2, 2, 0)", x.sizes(2, 2, 0), 1);

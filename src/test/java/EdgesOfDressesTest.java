@@ -713,10 +713,17 @@ public final class EdgesOfDressesTest {
         }
         DUE.of(8, "MOVE -1: those that FIT in each MOVE");
         due("all of six", Due.made("r50 54 00;r50 54 00;r50 54 00;r50 54 00;r50 54 00;r50 54 00;").fit(-1), 63);
-        due("not standing (loose)", Due.made("r50 59 00;").fit(-1), 0);
-        due("not sitting", Due.made("r50 54 04;").fit(-1), 0);
-        due("not with arms up", Due.made("r50 52 00;").fit(-1), 0);
-        due("not breathing", Due.made("r50 54 00;r50 54 00;r50 51 00;r50 51 00;").fit(-1), 0b1011);
+        String[] withoutOne = {"r50 54 00;r50 59 00;", "r50 54 00;r50 54 04;", "r50 52 00;r50 54 00;",
+            "r50 54 00;r50 54 00;r50 51 00;"};
+        int[] all = {1, 1, 2, 3};
+        for (int out = 0; out < 4; out++) {
+            PinnedToFit x = Due.made(withoutOne[out]);
+            for (int move = 0; move < 4; move++) {
+                int fitting = out == move ? all[out] : (1 << x.count(0)) - 1;
+                due("fit(" + move + ") of " + withoutOne[out], x.fit(move), fitting);
+            }
+            due("not in MOVE " + out + " alone", x.fit(-1), all[out]);
+        }
         DUE.of(8, "no RINGS: no bits");
         for (int move = -1; move < 4; move++) {
             due("fit(" + move + ")", new PinnedToFit().fit(move), 0);

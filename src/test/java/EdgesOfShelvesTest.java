@@ -427,7 +427,7 @@ public final class EdgesOfShelvesTest {
         Due.row(x, 1, SHORTS, 6, 7, 8, 9);
         String before = Due.all(x);
         DUE.of(30, "-13 a place that isn't there: of d");
-        int[][] ofD = {{-1, 0, 1}, {5, 0, 1}, {4, 0, 2}, {3, 0, 3}, {6, 0, 0}, {LEAST, 0, 1}, {MOST, 0, 1}, {-1, 0, 0}};
+        int[][] ofD = {{-1, 0, 1}, {5, 0, 1}, {4, 0, 2}, {3, 0, 3}, {6, 0, 0}, {-1, 0, 0}, {LEAST, 0, 1}, {MOST, 0, 1}};
         for (int[] w : ofD) {
             due("copy(0, " + w[0] + ", 1, " + w[1] + ", " + w[2] + ")", x.copy(0, w[0], 1, w[1], w[2]), -13);
         }
@@ -437,8 +437,8 @@ public final class EdgesOfShelvesTest {
             due("copy(0, " + w[0] + ", 1, " + w[1] + ", " + w[2] + ")", x.copy(0, w[0], 1, w[1], w[2]), -13);
         }
         DUE.of(30, "-13: a size that isn't as told, and sums beyond all ints");
-        int[][] sums = {{0, 0, -1}, {1, 1, -1}, {0, 0, LEAST}, {1, 1, MOST}, {MOST, MOST, MOST}, {0, 0, 6}, {MOST, 0, 2},
-            {0, MOST, 2}, {5, 4, -1}, {LEAST, LEAST, LEAST}, {-1, -1, MOST}};
+        int[][] sums = {{0, 0, -1}, {1, 1, -1}, {0, 0, LEAST}, {1, 1, MOST}, {MOST, MOST, MOST}, {0, 0, 6},
+            {MOST, 0, 2}, {0, MOST, 2}, {5, 4, -1}, {LEAST, LEAST, LEAST}, {-1, -1, MOST}};
         for (int[] w : sums) {
             due("copy(0, " + w[0] + ", 1, " + w[1] + ", " + w[2] + ")", x.copy(0, w[0], 1, w[1], w[2]), -13);
         }
